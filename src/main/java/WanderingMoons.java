@@ -1092,13 +1092,11 @@ public final class WanderingMoons {
             return true;
         }
 
-        private boolean takeSights(Sky sky) {
-            for (int k = 0; k <= MOST_SIGHTS && !textEnds(); k++) {
-                if (!takeSight(sky)) {
-                    return false;
-                }
+        private void takeSights(Sky sky) {
+            boolean fine = true;
+            for (int k = 0; fine && k <= MOST_SIGHTS && !textEnds(); k++) {
+                fine = takeSight(sky);
             }
-            return true;
         }
 
         private boolean takeSight(Sky sky) {

@@ -15,6 +15,7 @@ public final class ChangesTest {
         undo();
         undoEight();
         undoLeaves();
+        fromPresent();
         save();
         restore();
         Check.end();
@@ -69,11 +70,50 @@ public final class ChangesTest {
         Check.index("28: sight -1", () -> x.forget(-1));
         Check.same("28: all", x.forget(0), 0);
         Check.index("28: none", () -> x.forget(0));
+        twoMoons();
         Check.same("28: each is a change", x.undo(), 4);
         Check.same("28: undone", x.sight(0, 2), 3);
         Check.same("28: it can be seen again", Skies.of(ONE + "seen io dark 1;").forget(0), 0);
         x.forget(0);
         Check.same("28: the same again", x.see(0, 2, 3), 0);
+    }
+
+    private static void twoMoons() {
+        WanderingMoons x = Skies.of(ONE + "moon b 100 0 0 8 0;seen io dark 1;seen b lit 2;seen io cast 3;seen b off 4;");
+        Check.same("28: of two moons", x.forget(0), 3);
+        Check.same("28: each keeps its moon", Skies.picture(x),
+                "10 0 0 2 3 100 0 0 8 0 1;100 0 0 8 0 1;1 1 2;0 2 3;1 3 4;");
+    }
+
+    /** Neither what was only tried nor what was refused or undone may come along with a later change. */
+    private static void fromPresent() {
+        Check.same("27: from what is there", after(x -> x.see(0, 1, 9)), "10 3 4 1 2 100 0 0 8 0 1;0 0 5;0 1 9;");
+        Check.same("28: from what is there", after(x -> x.forget(0)), "10 3 4 1 0 100 0 0 8 0 1;");
+        Check.same("29: from what is there", after(x -> x.setMoon(0, 1, 7)), "10 3 4 1 1 100 7 0 8 0 1;0 0 5;");
+        Check.same("30: from what is there", after(x -> x.setLight(1, 2)), "10 1 2 1 1 100 0 0 8 0 1;0 0 5;");
+        Check.same("31: from what is there", after(x -> x.shift(0)), "10 3 4 1 1 100 0 0 8 0 1;0 0 5;");
+        Check.same("4: from what is there", after(x -> Skies.read(x, "seen io off 7;")),
+                "10 3 4 1 2 100 0 0 8 0 1;0 0 5;0 3 7;");
+        Check.same("34: from what is there", after(x -> x.restore(0)), "10 3 4 1 1 100 0 0 8 0 1;0 0 5;");
+        Check.same("3: from what is there", after(x -> Skies.load(x, "planet 9;moon a 20 0 0 9 1;")),
+                "9 0 0 1 0 20 0 0 9 1 1;");
+    }
+
+    private static String after(java.util.function.ToIntFunction<WanderingMoons> change) {
+        WanderingMoons x = Skies.of("planet 10;light 3 4;moon io 100 0 0 8 0;seen io dark 5;");
+        x.save(0);
+        x.setMoon(0, 3, 100);
+        x.see(0, 2, 8);
+        x.setLight(9, 9);
+        x.undo();
+        x.undo();
+        x.undo();
+        x.setMoon(0, 0, 11);
+        Skies.load(x, "planet 77;light 7 7;moon b 100 0 0 8 0;moon");
+        Skies.read(x, "seen io lit 3;seen");
+        x.burden(0, 10);
+        change.applyAsInt(x);
+        return Skies.picture(x);
     }
 
     private static void setMoon() {
@@ -99,6 +139,8 @@ public final class ChangesTest {
         Check.argument("29: what -1", () -> x.setMoon(0, -1, 1));
         Check.argument("29: what 6", () -> x.setMoon(0, 6, 1));
         Check.argument("29: what 7", () -> x.setMoon(0, 7, 1));
+        Check.argument("29: what -1 to 0", () -> x.setMoon(0, -1, 0));
+        Check.argument("29: what 6 to 0", () -> x.setMoon(0, 6, 0));
         Check.index("29: moon 2", () -> x.setMoon(2, 0, 100));
         Check.index("29: moon -1", () -> x.setMoon(-1, 0, 100));
         Check.index("29: the moon first", () -> x.setMoon(2, 6, -1));

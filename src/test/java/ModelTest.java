@@ -36,11 +36,26 @@ public final class ModelTest {
                 }
             }
         }
+        rounds();
         int runs = args.length > 1 ? Integer.parseInt(args[1]) : 160;
         for (int seed = 1; seed <= runs; seed++) {
             new ModelTest(seed).play();
         }
         Check.end();
+    }
+
+    /** All places of a whole round, a hundredth of a degree a tick. */
+    private static void rounds() {
+        int[] flatness = {0, 1, 7, 28, 45, 60};
+        for (int flat : flatness) {
+            ModelTest one = new ModelTest(-flat);
+            one.load("planet 10;light 77 13;moon a 9999 " + flat + " " + 5 * flat + " 36000 0;");
+            for (int time = 0; time < 36000; time += flat == 60 ? 1 : 11) {
+                for (int what = 0; what < 4; what++) {
+                    one.both("place", 0, time, what);
+                }
+            }
+        }
     }
 
     private void play() {

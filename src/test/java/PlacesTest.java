@@ -28,7 +28,7 @@ public final class PlacesTest {
         // 2147483647 is 11647 modulo 36000, -2147483648 is 24352
         Check.same("9: sine of the greatest number", x.sine(Integer.MAX_VALUE), x.sine(11647));
         Check.same("9: sine of the least number", x.sine(Integer.MIN_VALUE), x.sine(24352));
-        for (int angle = 0; angle < 36000; angle += 7) {
+        for (int angle = 0; angle < 36000; angle++) {
             long part = angle % 18000;
             long product = part * (18000 - part);
             int size = (int) (40000 * product / (405000000 - product));
@@ -84,6 +84,8 @@ public final class PlacesTest {
         places(x, 1, 0, 0, -15000, 0, -15000);
         places(x, 1, 4, 0, 5000, 0, 5000);
         places(x, 2, 0, -4000, 0, -4000, 0);
+        // the square of 99 is less than 9999, E stays at 9057, whose sine is 9999
+        Check.same("11: flatness 1", Skies.of("planet 10;moon a 9999 1 0 8 90;").place(0, 0, 1), 989802);
         // 36000 times 7, divided by 99999, is 2
         Check.same("11: angles are cut off", x.place(2, 7, 1), x.place(2, 8, 1));
         // the values of ../shared/tests, for all the rest of section 2

@@ -43,6 +43,14 @@ public final class ReadingTest {
         wrong(SYNTAX, "^");
         wrong(SYNTAX, "   ^");
         wrong(SYNTAX, "^planets 10;");
+        wrong(SYNTAX, "^clanet 10;");
+        wrong(SYNTAX, "^planeu 10;");
+        wrong(SYNTAX, "planet 10;^night 1 2;");
+        wrong(SYNTAX, "planet 10;moon a 100 0 0 8 0 ^tide 2;");
+        wrong(SYNTAX, MOON + "^noon b 100 0 0 8 0;");
+        wrong(SYNTAX, MOON + "^teen a dark 5;");
+        wrong(SYNTAX, MOON + "seen a ^bark 5;");
+        wrong(SYNTAX, MOON + "seen a ^it 5;");
         wrong(SYNTAX, "^plane 10;");
         wrong(SYNTAX, "^Planet 10;");
         wrong(SYNTAX, "^10;");
@@ -148,6 +156,8 @@ public final class ReadingTest {
         right("planet 10;moon moon 100 0 0 8 0;moon seen 90 0 0 8 0;moon dark 80 0 0 8 0;moon wide 70 0 0 8 0 wide 2;"
                 + "seen dark dark 5;seen seen lit 6;seen wide off 7;",
                 "10 0 0 4 3 100 0 0 8 0 1;90 0 0 8 0 1;80 0 0 8 0 1;70 0 0 8 0 2;2 0 5;1 1 6;3 3 7;");
+        right("planet 10;moon az 100 0 0 8 0;moon za 90 0 0 8 0;moon zzzzzzzz 80 0 0 8 0;seen zzzzzzzz dark 5;",
+                "10 0 0 3 1 100 0 0 8 0 1;90 0 0 8 0 1;80 0 0 8 0 1;2 0 5;");
         right("planet 10;moon abcdefgh 100 0 0 8 0;moon abcdefg 90 0 0 8 0;seen abcdefg lit 5;",
                 "10 0 0 2 1 100 0 0 8 0 1;90 0 0 8 0 1;1 1 5;");
     }

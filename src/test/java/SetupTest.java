@@ -208,8 +208,8 @@ public final class SetupTest {
     private static void offEnds() {
         // at 0 there is no event; at 1000001, where io goes off, there is no time
         WanderingMoons x = Skies.of(ONE + "seen io cast 1;seen io cast 3;seen io off 1;seen io off 1000000;"
-                + "seen io cast 1000000;");
-        int[] due = {7, 5, 0, -7, 0};
+                + "seen io cast 1000000;seen io cast 999998;seen io dark 2;seen io dark 999999;");
+        int[] due = {7, 5, 0, -7, 0, 2, 2, -3};
         for (int sight = 0; sight < due.length; sight++) {
             Check.same("8: at the ends of time, " + sight, x.sight(sight, 3), due[sight]);
         }

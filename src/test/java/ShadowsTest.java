@@ -13,6 +13,7 @@ public final class ShadowsTest {
         whyLit();
         meetings();
         meetingEdges();
+        meetingsByPlaces();
         ticking();
         darkest();
         refusals();
@@ -48,6 +49,8 @@ public final class ShadowsTest {
         Check.same("13: aside by -1100", stateAside(22, 1, 210), 0);
         Check.same("13: no radius, just wholly dark", stateAside(20, 0, 150), 2);
         Check.same("13: no radius, never partly dark", stateAside(21, 0, 150), 0);
+        Check.same("13: radius 99, aside by 10850", stateAside(217, 99, 150), 1);
+        Check.same("13: radius 99, aside by 10900", stateAside(218, 99, 150), 0);
         Check.same("13: wider than the planet", stateAside(32, 20, 180), 1);
         Check.same("13: as wide as the planet", stateAside(32, 10, 180), 2);
         Check.same("13: ahead by 0", stateAside(12, 1, 90), 0);
@@ -68,6 +71,8 @@ public final class ShadowsTest {
         Check.same("14: aside by 1100", castsAside(22, 1, 30), false);
         Check.same("14: aside by -1050", castsAside(21, 1, 330), true);
         Check.same("14: aside by -1100", castsAside(22, 1, 330), false);
+        Check.same("14: radius 99, aside by 10850", castsAside(217, 99, 30), true);
+        Check.same("14: radius 99, aside by 10900", castsAside(218, 99, 30), false);
         Check.same("14: radius 2", castsAside(22, 2, 30), true);
         Check.same("14: behind the planet", castsAside(21, 1, 150), false);
         x.setLight(180, 0);
@@ -108,8 +113,37 @@ public final class ShadowsTest {
         Check.same("16: partly dark", partly.whyLit(0, 0), 0);
         WanderingMoons beside = Skies.of("planet 10;moon a 22 0 0 8 150;");
         Check.same("16: just beside", beside.whyLit(0, 0), 2);
+        justBehind();
         WanderingMoons ahead = Skies.of("planet 10;moon a 12 0 0 8 90;");
         Check.same("16: ahead by 0", ahead.whyLit(0, 0), 1);
+    }
+
+    /** Goes on slowly to the place where it is ahead by less than 0 for the first time, by -1 there. */
+    private static void justBehind() {
+        WanderingMoons x = Skies.of("planet 1;moon a 3 0 0 99999 89 wide 0;");
+        int time = 0;
+        while (x.place(0, time, 2) >= 0) {
+            time++;
+        }
+        Check.same("16: the place", x.place(0, time, 2), -1);
+        Check.same("16: ahead by -1", x.whyLit(0, time), 2);
+        Check.same("16: a tick before", x.whyLit(0, time - 1), 1);
+    }
+
+    /** Whether they meet, told from where they are. */
+    private static void meetingsByPlaces() {
+        WanderingMoons x = Skies.of("planet 10;moon a 100 0 0 3600 0;moon b 200 20 40 3000 350;");
+        for (int time = 0; time < 1500; time++) {
+            long ax = x.place(0, time, 0);
+            long ay = x.place(0, time, 1);
+            long bx = x.place(1, time, 0);
+            long by = x.place(1, time, 1);
+            long along = ax * bx + ay * by;
+            boolean due = along > 0 && along >= 50 * Math.abs(ax * by - ay * bx);
+            if (along > 40 * Math.abs(ax * by - ay * bx)) {
+                Check.same("17: at " + time, x.meeting(0, 1, time) == time, due);
+            }
+        }
     }
 
     private static void meetings() {
