@@ -186,19 +186,11 @@ public final class ChangesTest {
         Check.same("30: undone", x.count(1) + " " + x.count(2), "45 6");
     }
 
-    private static int dark(WanderingMoons x, int moon) {
-        int time = 1;
-        while (x.state(moon, time) == 0 || x.state(moon, time - 1) != 0) {
-            time++;
-        }
-        return time;
-    }
-
     private static void shift() {
         WanderingMoons x = Skies.of(SLOW);
-        x.see(0, 0, dark(x, 0) - 190);
-        x.see(1, 0, dark(x, 1) + 400);
-        x.see(1, 0, dark(x, 1) + 310);
+        x.see(0, 0, Skies.darkTime(x, 0) - 190);
+        x.see(1, 0, Skies.darkTime(x, 1) + 400);
+        x.see(1, 0, Skies.darkTime(x, 1) + 310);
         Check.same("31: its burden then", x.shift(0), 10);
         Check.same("31: its place", x.moon(0, 4), 102);
         Check.same("31: below 0", x.shift(1), 110);
@@ -213,7 +205,7 @@ public final class ChangesTest {
         Check.index("31: moon 2", () -> x.shift(2));
         Check.index("31: moon -1", () -> x.shift(-1));
         WanderingMoons y = Skies.of("planet 10;moon a 100 0 0 36000 358;");
-        y.see(0, 0, dark(y, 0) - 300);
+        y.see(0, 0, Skies.darkTime(y, 0) - 300);
         Check.same("31: beyond 359", y.shift(0) + " " + y.moon(0, 4), "0 1");
     }
 

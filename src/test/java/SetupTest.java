@@ -190,7 +190,7 @@ public final class SetupTest {
     private static void offFar() {
         // 36000 ticks a round: one dark event a round, far from all others
         WanderingMoons x = Skies.of("planet 10;moon a 100 0 0 36000 100;");
-        int dark = darkTime(x);
+        int dark = Skies.darkTime(x, 0);
         x.see(0, 0, dark + 400);
         x.see(0, 0, dark + 401);
         x.see(0, 0, dark - 400);
@@ -213,13 +213,5 @@ public final class SetupTest {
         for (int sight = 0; sight < due.length; sight++) {
             Check.same("8: at the ends of time, " + sight, x.sight(sight, 3), due[sight]);
         }
-    }
-
-    private static int darkTime(WanderingMoons x) {
-        int time = 1;
-        while (x.state(0, time) == 0 || x.state(0, time - 1) != 0) {
-            time++;
-        }
-        return time;
     }
 }

@@ -114,8 +114,23 @@ public final class ShadowsTest {
         WanderingMoons beside = Skies.of("planet 10;moon a 22 0 0 8 150;");
         Check.same("16: just beside", beside.whyLit(0, 0), 2);
         justBehind();
+        hardlyAhead();
         WanderingMoons ahead = Skies.of("planet 10;moon a 12 0 0 8 90;");
         Check.same("16: ahead by 0", ahead.whyLit(0, 0), 1);
+    }
+
+    private static String seen(WanderingMoons x, int time) {
+        return x.place(0, time, 2) + " " + x.place(0, time, 3) + ": " + x.state(0, time) + " " + x.casts(0, time) + " "
+                + x.whyLit(0, time);
+    }
+
+    /** Sines are a little too small at 45 degrees: a moon just fitting is aside by less than the radii at its side. */
+    private static void hardlyAhead() {
+        WanderingMoons x = Skies.of("planet 999;moon a 1099 0 23 8 67 wide 99;");
+        Check.same("13, 14, 16: ahead by 0", seen(x, 0), "0 109782: 0 false 1");
+        WanderingMoons y = Skies.of("planet 999;light 0 1;moon a 1099 0 30 36000 60 wide 99;");
+        Check.same("13, 14, 16: ahead by 1", seen(y, 30), "1 109652: 0 true 1");
+        Check.same("13, 14, 16: ahead by -1", seen(y, 26), "-1 109656: 1 false 0");
     }
 
     /** Goes on slowly to the place where it is ahead by less than 0 for the first time, by -1 there. */

@@ -13,18 +13,10 @@ public final class SightsTest {
         Check.end();
     }
 
-    private static int dark(WanderingMoons x, int moon) {
-        int time = 1;
-        while (x.state(moon, time) == 0 || x.state(moon, time - 1) != 0) {
-            time++;
-        }
-        return time;
-    }
-
     /** The sky SLOW with sights of its moon a, each so much behind its dark event. */
     private static WanderingMoons slow(int... behind) {
         WanderingMoons x = Skies.of(SLOW);
-        int dark = dark(x, 0);
+        int dark = Skies.darkTime(x, 0);
         for (int ticks : behind) {
             x.see(0, 0, dark + ticks);
         }
@@ -66,8 +58,8 @@ public final class SightsTest {
     private static void modulo() {
         WanderingMoons x = Skies.of("planet 10;moon a 100 0 0 36000 359;moon b 100 0 0 36000 0;moon c 100 0 0 36000 9;"
                 + "moon d 100 0 0 36000 350;");
-        int later = dark(x, 2);
-        int earlier = dark(x, 3);
+        int later = Skies.darkTime(x, 2);
+        int earlier = Skies.darkTime(x, 3);
         x.see(0, 0, later);
         x.see(1, 0, earlier);
         Check.same("25: beyond 359", x.burden(0, 10), 0);

@@ -52,6 +52,15 @@ final class Skies {
         return all.toString();
     }
 
+    /** The first time at which a moon gets dark. */
+    static int darkTime(WanderingMoons sky, int moon) {
+        int time = 1;
+        while (sky.state(moon, time) == 0 || sky.state(moon, time - 1) != 0) {
+            time++;
+        }
+        return time;
+    }
+
     static String written(WanderingMoons sky, int length) {
         StringBuilder text = new StringBuilder();
         for (int k = 0; k < length; k++) {
