@@ -38,19 +38,15 @@ public final class EventsTest {
     private static void nextEdges() {
         // a round of 99999 ticks, dark at half of it
         WanderingMoons x = Skies.of("planet 10;moon a 100 0 0 99999 0;");
-        int dark = 40000;
-        while (x.state(0, dark) == 0) {
-            dark++;
-        }
+        int dark = 48269;
+        Check.same("20: lit at first", x.state(0, dark - 1), 0);
         Check.same("20: at the tick itself", x.next(0, 0, dark), dark);
         Check.same("20: not behind it", x.next(0, 0, dark + 1), -1);
         Check.same("20: 5000 later", x.next(0, 0, dark - 5000), dark);
         Check.same("20: 5001 later", x.next(0, 0, dark - 5001), -1);
-        int whole = dark;
-        while (x.state(0, whole) == 1) {
-            whole++;
-        }
-        Check.same("20: partly dark comes first", x.state(0, dark), 1);
+        int whole = 48583;
+        Check.same("20: partly dark comes first", x.state(0, dark) + " " + x.state(0, whole - 1), "1 1");
+        Check.same("20: then wholly", x.state(0, whole), 2);
         Check.same("20: from partly to wholly dark is no event", x.events(dark + 1, whole), 0);
     }
 
@@ -153,14 +149,15 @@ public final class EventsTest {
         writes(x, 1000000, 1000000, "1000000 cast abcdefgh,1000000 cast b,1000000 dark c");
         writes(x, 8, 8, "8 cast abcdefgh,8 cast b,8 dark c");
         WanderingMoons one = Skies.of(ONE);
+        WanderingMoons other = Skies.of(ONE);
         writes(one, 1, 40, "1 off io,4 dark io,5 lit io,8 cast io,9 off io,12 dark io,13 lit io,16 cast io,"
                 + "17 off io,20 dark io,21 lit io,24 cast io,25 off io,28 dark io,29 lit io,32 cast io,"
                 + "33 off io,36 dark io,37 lit io,40 cast io");
         writes(one, 4, 2004, "4 dark io,5 lit io,8 cast io,9 off io,12 dark io,13 lit io,16 cast io,"
                 + "17 off io,20 dark io,21 lit io,24 cast io,25 off io,28 dark io,29 lit io,32 cast io,"
                 + "33 off io,36 dark io,37 lit io,40 cast io,41 off io");
-        writes(one, 96, 108, "96 cast io,97 off io,100 dark io,101 lit io,104 cast io,105 off io,108 dark io");
-        writes(one, 100000, 100004, "100000 cast io,100001 off io,100004 dark io");
+        writes(other, 96, 108, "96 cast io,97 off io,100 dark io,101 lit io,104 cast io,105 off io,108 dark io");
+        writes(other, 100000, 100004, "100000 cast io,100001 off io,100004 dark io");
         writes(new WanderingMoons(), 1, 2001, "");
         longest();
     }

@@ -28,7 +28,16 @@ public final class PlacesTest {
         // 2147483647 is 11647 modulo 36000, -2147483648 is 24352
         Check.same("9: sine of the greatest number", x.sine(Integer.MAX_VALUE), x.sine(11647));
         Check.same("9: sine of the least number", x.sine(Integer.MIN_VALUE), x.sine(24352));
+        wholeCircle();
+    }
+
+    /** A new sky for each 500 of all angles: what an object answers after 512 calls is free. */
+    private static void wholeCircle() {
+        WanderingMoons x = new WanderingMoons();
         for (int angle = 0; angle < 36000; angle++) {
+            if (angle % 500 == 0) {
+                x = new WanderingMoons();
+            }
             long part = angle % 18000;
             long product = part * (18000 - part);
             int size = (int) (40000 * product / (405000000 - product));

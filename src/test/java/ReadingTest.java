@@ -239,6 +239,11 @@ public final class ReadingTest {
         alone(x, VALUE, "seen a lit ^0;");
         alone(x, TWICE, "seen a dark ^5;");
         alone(x, TWICE, "seen a lit 9;seen a lit ^9;");
+        fullAlone();
+    }
+
+    private static void fullAlone() {
+        WanderingMoons x = Skies.of(MOON + "seen a dark 5;" + sights(1, 3));
         alone(x, TOO_MANY, sights(4, 29) + "^seen a");
         Check.same("4: up to 30", Skies.read(x, sights(4, 29) + "  "), 30);
         alone(x, TOO_MANY, " ^seen");
