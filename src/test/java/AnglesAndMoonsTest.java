@@ -192,6 +192,9 @@ public final class AnglesAndMoonsTest {
         // 7855, 8977, 9000, 9001, 9000, 9001, 9000
         Calls.due("2: six times", x, "place 2 7855 0", "-199980", "place 2 7855 1", "969903");
         Calls.due("2: six times", x, "place 3 9524 0", "-112288", "place 3 9524 1", "984753");
+        // 4014 times 573 is 2300022, and 4363 times 573 is 2499999: 23 and 24
+        Calls.due("2: divided by 100000", x, "place 3 2340 0", "905109", "place 3 2340 1", "397445", "place 3 2560 0", "888911",
+                "place 3 2560 1", "431893");
     }
 
     /** Where E is 9000, or so near that its sine is 9999, y is 9999 times W, or less than 9999 below it. */

@@ -461,6 +461,8 @@ public final class TextsTest {
         WanderingMoons x = new WanderingMoons();
         Skies.load(x, filled("planet 10;moon", 400, ""));
         Check.same("5: the length of the text, not of an older one", Skies.load(x, "planet 10") + " " + x.errorPosition(), "-2 9");
+        Skies.load(x, filled("planet", 300, ""));
+        Check.same("5: spaces end with their text", Skies.load(x, "planet 10") + " " + x.errorPosition(), "-2 9");
         Skies.load(x, "planet 10;moon abcdefgh 100 0 0 8 0;");
         Check.same("5: a word ends with its text", Skies.load(x, "planet 10;moon a") + " " + x.errorPosition(), "-2 16");
         Skies.load(x, "planet 10999999999999");
