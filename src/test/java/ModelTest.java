@@ -22,11 +22,13 @@ public final class ModelTest {
     private final WanderingMoons built = new WanderingMoons();
     private final Oracle oracle = new Oracle();
     private final String run;
+    private final int most;
     private int calls;
 
     private ModelTest(long seed) {
         random = new Random(seed);
         run = "run " + seed;
+        most = seed % 8 == 0 ? MOST_CALLS : 250;
     }
 
     public static void main(String[] args) {
@@ -65,7 +67,7 @@ public final class ModelTest {
 
     private void play() {
         load(text());
-        while (calls < 250) {
+        while (calls < most) {
             int dice = random.nextInt(100);
             if (dice < 60) {
                 query();
@@ -280,6 +282,9 @@ public final class ModelTest {
     // ---- the comparison
 
     private void both(String name, Object... values) {
+        if (calls >= MOST_CALLS) {
+            return;
+        }
         calls++;
         String call = run + ", call " + calls + ": " + name + Arrays.toString(values);
         Object due = answer(METHODS.get("O." + name), oracle, values);
